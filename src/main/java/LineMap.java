@@ -33,7 +33,7 @@ public final class LineMap {
     private final Search search;
     private final Names names;
     private final Plan[] images;
-    private final boolean[] isKept;
+    private final boolean[] isImageKept;
     private int refusal;
 
     public LineMap() {
@@ -48,7 +48,7 @@ public final class LineMap {
         for (int k = 0; k < IMAGES; k++) {
             images[k] = new Plan();
         }
-        isKept = new boolean[IMAGES];
+        isImageKept = new boolean[IMAGES];
         refusal = 0;
     }
 
@@ -192,7 +192,7 @@ public final class LineMap {
         if (!isWithin(what, 0, 3)) {
             return BAD_NUMBER;
         }
-        if (!law.isKept()) {
+        if (!law.isAllowed()) {
             return NOT_ALLOWED;
         }
         switch (what) {
@@ -216,7 +216,7 @@ public final class LineMap {
     }
 
     public int better() {
-        if (!law.isKept()) {
+        if (!law.isAllowed()) {
             return refuse(NOT_ALLOWED);
         }
         int changes = 0;
@@ -239,7 +239,7 @@ public final class LineMap {
     }
 
     public int put() {
-        if (!law.isKept()) {
+        if (!law.isAllowed()) {
             return refuse(NOT_ALLOWED);
         }
         return accept(names.putAll());
@@ -260,7 +260,7 @@ public final class LineMap {
             return refuse(BAD_NUMBER);
         }
         images[k].copy(plan);
-        isKept[k] = true;
+        isImageKept[k] = true;
         return accept(0);
     }
 
@@ -268,7 +268,7 @@ public final class LineMap {
         if (!isWithin(k, 0, IMAGES - 1)) {
             return refuse(BAD_NUMBER);
         }
-        if (!isKept[k]) {
+        if (!isImageKept[k]) {
             return refuse(NOT_ALLOWED);
         }
         plan.copy(images[k]);
@@ -331,9 +331,10 @@ public final class LineMap {
             int before = price.around(s);
             for (int p = 0; p < plan.points(); p++) {
                 plan.move(s, p);
-                // the gain comes ahead of the full test because it is cheaper and mostly decides
-                if (p != home && law.areEdgesGood(s) && before - price.around(s) > mostGain && law.fits(s)) {
-                    mostGain = before - price.around(s);
+                int gain = law.areEdgesGood(s) ? before - price.around(s) : 0;
+                // the gain is looked at ahead of the full test because it mostly decides
+                if (gain > mostGain && law.fits(s)) {
+                    mostGain = gain;
                     mover = s;
                     target = p;
                 }
@@ -345,49 +346,6 @@ public final class LineMap {
         }
         plan.move(mover, target);
         return true;
-    }
-
-    /** Directions in eighths of a round. */
-    private static final class Compass {
-        private Compass() {
-        }
-
-        /** The direction of a step on the grid; NONE where it is none of the eight. */
-        static int ofStep(int x, int y) {
-            if (x == 0) {
-                return y == 0 ? NONE : y > 0 ? 2 : 6;
-            }
-            if (y == 0) {
-                return x > 0 ? 0 : 4;
-            }
-            if (x == y) {
-                return x > 0 ? 1 : 5;
-            }
-            if (x == -y) {
-                return x > 0 ? 7 : 3;
-            }
-            return NONE;
-        }
-
-        static int ofTrueStep(int x, int y) {
-            int far = Math.abs(x);
-            int high = Math.abs(y);
-            if (1000 * high < 414 * far) {
-                return x < 0 ? 4 : 0;
-            }
-            if (1000 * far < 414 * high) {
-                return y < 0 ? 6 : 2;
-            }
-            if (y > 0) {
-                return x > 0 ? 1 : 3;
-            }
-            return x < 0 ? 5 : 7;
-        }
-
-        static int turn(int a, int b) {
-            int eighths = (a - b) & 7;
-            return Math.min(eighths, 8 - eighths);
-        }
     }
 
     /** Stations at their true places, lines, and the edges and rings that follow from them. */
@@ -474,11 +432,26 @@ public final class LineMap {
                         edgeOf[b][a] = edges;
                         low[edges] = a;
                         high[edges] = b;
-                        heading[edges] = Compass.ofTrueStep(x[b] - x[a], y[b] - y[a]);
+                        heading[edges] = trueDirection(x[b] - x[a], y[b] - y[a]);
                         edges++;
                     }
                 }
             }
+        }
+
+        private static int trueDirection(int stepX, int stepY) {
+            int far = Math.abs(stepX);
+            int tall = Math.abs(stepY);
+            if (1000 * tall < 414 * far) {
+                return stepX < 0 ? 4 : 0;
+            }
+            if (1000 * far < 414 * tall) {
+                return stepY < 0 ? 6 : 2;
+            }
+            if (stepY > 0) {
+                return stepX > 0 ? 1 : 3;
+            }
+            return stepX < 0 ? 5 : 7;
         }
 
         private void addToRing(int s, int n) {
@@ -582,8 +555,23 @@ public final class LineMap {
             return n;
         }
 
+        /** The direction from a to b; NONE where it is none of the eight. */
         int directionTo(int a, int b) {
-            return Compass.ofStep(x[b] - x[a], y[b] - y[a]);
+            int stepX = x[b] - x[a];
+            int stepY = y[b] - y[a];
+            if (stepX == 0) {
+                return stepY == 0 ? NONE : stepY > 0 ? 2 : 6;
+            }
+            if (stepY == 0) {
+                return stepX > 0 ? 0 : 4;
+            }
+            if (stepX == stepY) {
+                return stepX > 0 ? 1 : 5;
+            }
+            if (stepX == -stepY) {
+                return stepX > 0 ? 7 : 3;
+            }
+            return NONE;
         }
 
         int distance(int a, int b) {
@@ -639,7 +627,7 @@ public final class LineMap {
             this.terms = terms;
         }
 
-        boolean isKept() {
+        boolean isAllowed() {
             examine();
             return fault == 0;
         }
@@ -878,13 +866,18 @@ public final class LineMap {
             return sum;
         }
 
+        private static int eighthsBetween(int a, int b) {
+            int eighths = (a - b) & 7;
+            return eighths > 4 ? 8 - eighths : eighths;
+        }
+
         private int turnOf(int e) {
-            return Compass.turn(plan.directionTo(net.low[e], net.high[e]), net.heading[e]);
+            return eighthsBetween(plan.directionTo(net.low[e], net.high[e]), net.heading[e]);
         }
 
         private int bendAt(int l, int i) {
             int[] row = net.row[l];
-            return Compass.turn(plan.directionTo(row[i - 1], row[i]), plan.directionTo(row[i], row[i + 1]));
+            return eighthsBetween(plan.directionTo(row[i - 1], row[i]), plan.directionTo(row[i], row[i + 1]));
         }
 
         /** The part of the cost in which s has a share, as far as the stations of it are placed. */
@@ -927,6 +920,8 @@ public final class LineMap {
      * that cost can still be had. Sets of points are held as bits, of which an int has enough.
      */
     private static final class Search {
+        private static final int ANYWHERE = -1;
+
         private final Net net;
         private final Terms terms;
         private final Plan trial = new Plan();
@@ -953,8 +948,10 @@ public final class LineMap {
         /** The least cost, to which plan then comes; NONE, and plan stays, where there is none. */
         int findLeast(Plan plan) {
             trial.begin(plan.w, plan.h);
-            for (int p = 0; p < trial.points(); p++) {
-                lookRound(p);
+            for (int y = 0; y < trial.h; y++) {
+                for (int x = 0; x < trial.w; x++) {
+                    lookRound(x, y);
+                }
             }
             isAnyHeld = plan.countHeld() > 0;
             for (int s = 0; s < net.stations; s++) {
@@ -977,11 +974,10 @@ public final class LineMap {
             return least;
         }
 
-        /** Notes which points an edge from p can lead to, and the points inside each such edge. */
-        private void lookRound(int p) {
+        /** Notes which points an edge from x, y can lead to, and the points inside each such edge. */
+        private void lookRound(int x, int y) {
+            int p = y * trial.w + x;
             reach[p] = 0;
-            int x = p % trial.w;
-            int y = p / trial.w;
             for (int direction = 0; direction < 8; direction++) {
                 int passed = 0;
                 for (int n = 1; n < 8; n++) {
@@ -1018,7 +1014,9 @@ public final class LineMap {
 
         /** Fixed stations come first, then always the one with most edges to those before it. */
         private void arrange() {
-            Arrays.fill(isOrdered, false);
+            for (int s = 0; s < net.stations; s++) {
+                isOrdered[s] = false;
+            }
             for (int depth = 0; depth < net.stations; depth++) {
                 int next = 0;
                 int most = NONE;
@@ -1049,7 +1047,9 @@ public final class LineMap {
 
         /** At each depth the least that the edges still to come can cost. */
         private void countRest() {
-            Arrays.fill(isOrdered, false);
+            for (int s = 0; s < net.stations; s++) {
+                isOrdered[s] = false;
+            }
             rest[0] = net.edges * terms.least * terms.perLength;
             for (int depth = 0; depth < net.stations; depth++) {
                 int s = order[depth];
@@ -1096,7 +1096,7 @@ public final class LineMap {
         /** Where the station of this depth can stand as far as its own edges tell. */
         private int openPoints(int depth) {
             int s = order[depth];
-            int open = fixed[s] == NONE ? (1 << trial.points()) - 1 : 1 << fixed[s];
+            int open = fixed[s] == NONE ? ANYWHERE : 1 << fixed[s];
             for (int i = 0; i < net.degree[s]; i++) {
                 int n = net.ring[s][i];
                 if (trial.isPlaced(n)) {
@@ -1117,13 +1117,12 @@ public final class LineMap {
                 isLeft |= trial.x[s] == 0;
                 isTop |= trial.y[s] == 0;
             }
-            int flush = 0;
-            for (int p = 0; p < trial.points(); p++) {
-                if ((isTop || p < trial.w) && (isLeft || p % trial.w == 0)) {
-                    flush |= 1 << p;
-                }
+            int left = 0;
+            for (int y = 0; y < trial.h; y++) {
+                left |= 1 << (y * trial.w);
             }
-            return flush;
+            int top = (1 << trial.w) - 1;
+            return (isLeft ? ANYWHERE : left) & (isTop ? ANYWHERE : top);
         }
 
         /** The points inside the edges from s at p to placed ones; NONE where one is in the way. */
@@ -1239,7 +1238,8 @@ public final class LineMap {
                 return isUnder(s, Math.min(ax, bx), Math.max(ax, bx));
             }
             // upright and aslant edges have one cell on each level between their ends
-            int x = ax + Integer.signum(bx - ax) * Math.abs(level[s] - ay);
+            int away = Math.abs(level[s] - ay);
+            int x = bx == ax ? ax : bx > ax ? ax + away : ax - away;
             return isUnder(s, x, x);
         }
     }

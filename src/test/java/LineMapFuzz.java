@@ -8,14 +8,17 @@ import java.util.TreeSet;
 
 /**
  * Long runs of drawn-by-lot calls, each answer held against a second program that follows the
- * document word by word and takes no short cuts. Arguments: how many runs, the first seed.
+ * document word by word and takes no short cuts. Arguments: how many runs, the first seed, and the
+ * most drawings that the second program may look through for one best().
  */
 public final class LineMapFuzz {
   private static int wrong = 0;
+  private static long mostWork = 250_000;
 
   public static void main(String[] args) {
     int runs = args.length > 0 ? Integer.parseInt(args[0]) : 400;
     long seed = args.length > 1 ? Long.parseLong(args[1]) : 1;
+    if (args.length > 2) mostWork = Long.parseLong(args[2]);
     for (int run = 0; run < runs && wrong < 20; run++) {
       new Run(seed + run).go();
     }
@@ -35,7 +38,8 @@ public final class LineMapFuzz {
 
     Run(long seed) {
       this.seed = seed;
-      lot = new Random(seed);
+      // seeds side by side begin alike if they are not spread first
+      lot = new Random(seed * 0x9E3779B97F4A7C15L);
       small = lot.nextInt(2) == 0;
       oracle = new Oracle();
     }
@@ -67,11 +71,13 @@ public final class LineMapFuzz {
       int stations = small ? 1 + lot.nextInt(5) : 3 + lot.nextInt(8);
       int step = lot.nextBoolean() ? 1 : 250;
       for (int i = 0; i < stations; i++) addStation(step);
-      int lines = 1 + lot.nextInt(3);
+      int lines = lot.nextInt(4);
+      boolean isStar = lot.nextInt(3) == 0;
       for (int i = 0; i < lines; i++) {
         addLine();
+        if (isStar) addRay(i);
         int leads = 2 + lot.nextInt(3);
-        for (int k = 0; k < leads; k++) addLead();
+        for (int k = 0; k < leads && !isStar; k++) addLead();
       }
       if (small || lot.nextBoolean()) setGrid();
     }
@@ -92,8 +98,15 @@ public final class LineMapFuzz {
       due("lead(" + l + ", " + s + ")", map.lead(l, s), oracle.lead(l, s));
     }
 
+    /** A line right through station 0, so that this one has many neighbours. */
+    void addRay(int l) {
+      int n = oracle.xs.size();
+      for (int s : new int[] {lot.nextInt(Math.max(1, n)), 0, lot.nextInt(Math.max(1, n))})
+        due("lead(" + l + ", " + s + ")", map.lead(l, s), oracle.lead(l, s));
+    }
+
     void setGrid() {
-      int w = small ? 2 + lot.nextInt(2) : 2 + lot.nextInt(7);
+      int w = small ? 2 + lot.nextInt(2) : 2 + lot.nextInt(lot.nextBoolean() ? 7 : 3);
       int h = small ? 2 + lot.nextInt(3) : 2 + lot.nextInt(7);
       if (lot.nextInt(15) == 0) w = lot.nextBoolean() ? 1 : 9;
       if (lot.nextInt(15) == 0) h = lot.nextBoolean() ? 1 : 9;
@@ -109,8 +122,11 @@ public final class LineMapFuzz {
       due("place(" + s + ", " + x + ", " + y + ")", map.place(s, x, y), oracle.place(s, x, y));
     }
 
-    /** Looks by lot for a drawing that is allowed, so that better and put have one to begin with. */
-    void drawAllowed() {
+    /**
+     * Looks by lot for a drawing that is allowed, so that better and put have one to begin with, or
+     * for one in which at least each edge is straight and long enough.
+     */
+    void draw(boolean isAllowed) {
       int n = oracle.xs.size();
       for (int tries = 0; tries < 300; tries++) {
         int[] p = new int[n];
@@ -122,7 +138,7 @@ public final class LineMapFuzz {
             ok = oracle.partial(p, s + 1);
           }
         }
-        if (ok && oracle.whyOf(p)[0] == 0) {
+        if (ok && (!isAllowed || oracle.whyOf(p)[0] == 0)) {
           for (int s = 0; s < n; s++) {
             int x = p[s] % oracle.w;
             int y = p[s] / oracle.w;
@@ -149,17 +165,23 @@ public final class LineMapFuzz {
         int t = lot.nextInt(top) - 1;
         due("terms(" + b + ", " + w + ", " + t + ")", map.terms(b, w, t), oracle.terms(b, w, t));
       } else if (kind < 40) setPlace();
-      else if (kind < 48) drawAllowed();
+      else if (kind < 46) draw(true);
+      else if (kind < 49) draw(false);
       else if (kind < 56) {
         int s = station();
         boolean is = lot.nextInt(3) == 0;
         due("hold(" + s + ", " + is + ")", map.hold(s, is), oracle.hold(s, is));
       } else if (kind < 64) {
-        if (oracle.xs.size() > 5 || oracle.w * oracle.h > 25 || oracle.work() < 3_000_000) {
+        if (oracle.xs.size() > 5 || oracle.w * oracle.h > 25 || oracle.work() < mostWork) {
           due("best()", map.best(), oracle.best());
         }
       } else if (kind < 72) due("better()", map.better(), oracle.better());
-      else if (kind < 82) {
+      else if (kind < 74) {
+        for (int s = 0; s < oracle.xs.size(); s++) {
+          int n = 5 + lot.nextInt(8);
+          due("name(" + s + ", " + n + ")", map.name(s, n), oracle.name(s, n));
+        }
+      } else if (kind < 82) {
         int s = station();
         int n = lot.nextInt(8) == 0 ? lot.nextInt(16) - 1 : lot.nextInt(13);
         due("name(" + s + ", " + n + ")", map.name(s, n), oracle.name(s, n));
