@@ -32,8 +32,8 @@ public final class LineMapPromises {
     promise = 13; hold();
     promise = 14; why(); whyOrder(); whyFirst(); whyRing();
     promise = 15; cost();
-    promise = 16; best(); bestHeld(); bestNone(); bestTooGreat(); bestTies(); bestWeighs();
-    promise = 17; better(); betterTies(); betterHeld();
+    promise = 16; best(); bestHeld(); bestNone(); bestTooGreat(); bestTies(); bestWeighs(); bestKnotty();
+    promise = 17; better(); betterTies(); betterHeld(); betterShut();
     promise = 18; name();
     promise = 19; put();
     promise = 20; named(); namedPlaces(); namedHindered();
@@ -197,6 +197,7 @@ public final class LineMapPromises {
       {0, 500, 2}, {206, 500, 2}, {207, 500, 1}, {-206, 500, 2}, {-207, 500, 3}, {-500, 500, 3},
       {-500, 0, 4}, {-500, 206, 4}, {-500, 207, 3}, {-500, -206, 4}, {-500, -207, 5}, {-500, -500, 5},
       {0, -500, 6}, {206, -500, 6}, {207, -500, 7}, {-206, -500, 6}, {-207, -500, 5}, {500, -500, 7},
+      {1, 0, 0}, {1, 1, 1}, {0, 1, 2}, {-1, 1, 3}, {-1, 0, 4}, {-1, -1, 5}, {0, -1, 6}, {1, -1, 7},
     };
     for (int[] step : steps) {
       LineMap x = new LineMap();
@@ -205,6 +206,16 @@ public final class LineMapPromises {
       addLine(x, 1, 0);
       due("edge(0, 2) of " + step[0] + ", " + step[1], x.edge(0, 2), step[2]);
     }
+    // 413000 is below 414 * 998 = 413172, by little
+    LineMap far = new LineMap();
+    far.station(0, 0);
+    far.station(998, 413);
+    far.station(413, 998);
+    far.station(997, 413);
+    far.station(413, 997);
+    addLine(far, 1, 0, 2);
+    addLine(far, 3, 0, 4);
+    for (int e = 0; e < 4; e++) due("edge(" + e + ", 2)", far.edge(e, 2), new int[] {0, 2, 1, 1}[e]);
   }
 
   private static void round() {
@@ -226,6 +237,15 @@ public final class LineMapPromises {
       due("round(" + s + ", -1)", x.round(s, -1), -1);
       due("round(" + s + ", 0)", x.round(s, 0), -1);
     }
+    // the least steps there are
+    LineMap z = new LineMap();
+    z.station(500, 500);
+    for (int d = 7; d >= 0; d--) z.station(500 + DX[d], 500 + DY[d]);
+    addLine(z, 1, 0, 2);
+    addLine(z, 3, 0, 4);
+    addLine(z, 5, 0, 6);
+    addLine(z, 7, 0, 8);
+    for (int i = 0; i < 8; i++) due("round(0, " + i + ")", z.round(0, i), 8 - i);
     // angles that differ by a millionth part
     LineMap y = new LineMap();
     y.station(0, 0);
@@ -668,6 +688,34 @@ public final class LineMapPromises {
     due("cost(3)", x.cost(3), 2);
   }
 
+  /** Answers that a search through all drawings gave. */
+  private static void bestKnotty() {
+    LineMap x = mapOf(4, 3, 4, 0, 2, 1, 4, 2, 0, 0);
+    addLine(x, 4, 1, 3, 0);
+    addLine(x, 2, 0, 1, 4);
+    due("best()", x.best(), 96);
+    dueAll("points", points(x), 23, 8, 17, 20, 3);
+    LineMap y = mapOf(3, 1, 2, 0, 0, 2, 4, 2, 1, 0);
+    addLine(y, 2, 4);
+    addLine(y, 2, 3, 4, 1);
+    due("best()", y.best(), 33);
+    dueAll("points", points(y), 0, 1, 10, 11, 6);
+    LineMap z = mapOf(3, 4, 0, 2, 1, 2, 3, 1, 2, 3);
+    addLine(z, 2, 4, 0);
+    addLine(z, 3, 4, 0, 2);
+    due("best()", z.best(), 63);
+    dueAll("points", points(z), 11, 0, 5, 1, 6);
+    LineMap u = mapOf(3, 0, 2, 2, 4, 1, 1, 3, 2, 0);
+    addLine(u, 1, 0, 4, 3);
+    addLine(u, 4, 2, 0);
+    due("best()", u.best(), 80);
+    dueAll("points", points(u), 4, 8, 19, 0, 1);
+    LineMap v = mapOf(1, 4, 4, 3, 1, 0, 0, 0, 2, 2);
+    addLine(v, 4, 0, 1, 3);
+    addLine(v, 4, 2, 3, 0);
+    due("best()", v.best(), -6);
+  }
+
   private static void better() {
     LineMap x = mapOf(0, 0, 1, 0, 2, 0);
     addLine(x, 0, 1, 2);
@@ -727,6 +775,57 @@ public final class LineMapPromises {
     due("better()", x.better(), 0);
     dueAll("points", points(x), 1, 4);
     due("count(3)", x.count(3), 2);
+  }
+
+  /** Points that would make the cost less, but are not allowed. */
+  private static void betterShut() {
+    // 1 would go to 0, 1 if 0 were not there
+    LineMap x = mapOf(9, 9, 0, 0, 1, 0);
+    addLine(x, 1, 2);
+    draw(x, 4, 4, 0, 0, 1, 1);
+    due("better()", x.better(), 1);
+    dueAll("points", points(x), 24, 5, 6);
+    draw(x, 0, 1, 0, 0, 1, 1);
+    due("better()", x.better(), 1);
+    dueAll("points", points(x), 5, 0, 1);
+    // 3 should lie along x from 2, but there is the edge 0, 1, first on its point, then across
+    LineMap y = mapOf(2, 0, 2, 2, 1, 1, 3, 1);
+    addLine(y, 0, 1);
+    addLine(y, 2, 3);
+    draw(y, 2, 0, 2, 2, 1, 1, 1, 2);
+    for (int s = 0; s < 3; s++) y.hold(s, true);
+    due("better()", y.better(), 0);
+    y.hold(2, false);
+    due("better()", y.better(), 1);
+    dueAll("points", points(y), 2, 12, 10, 11);
+    // a station without lines on the way
+    LineMap z = mapOf(9, 9, 1, 1, 3, 1);
+    addLine(z, 1, 2);
+    z.grid(4, 2);
+    draw(z, 1, 1, 0, 1, 0, 0);
+    z.hold(1, true);
+    due("better()", z.better(), 1);
+    dueAll("points", points(z), 5, 4, 1);
+    // an edge aslant across the way: 3 comes no nearer to direction 1 than 7
+    LineMap u = mapOf(2, 1, 1, 2, 1, 1, 2, 2);
+    addLine(u, 0, 1);
+    addLine(u, 2, 3);
+    draw(u, 2, 1, 1, 2, 1, 1, 1, 0);
+    for (int s = 0; s < 3; s++) u.hold(s, true);
+    due("better()", u.better(), 1);
+    dueAll("points", points(u), 7, 11, 6, 2);
+    // the order round the hub 0, of which 2 is a neighbour: it can't pass 3
+    LineMap v = mapOf(2, 2, 3, 2, 2, 3, 1, 2);
+    addLine(v, 1, 0, 3);
+    addLine(v, 2, 0);
+    draw(v, 2, 2, 2, 1, 3, 1, 3, 2);
+    due("why(0)", v.why(0), 0);
+    for (int s : new int[] {0, 1, 3}) v.hold(s, true);
+    due("better()", v.better(), 0);
+    // nor can the hub itself go where its neighbours come in another order
+    v.grid(3, 3);
+    draw(v, 1, 1, 2, 1, 1, 2, 0, 1);
+    due("better()", v.better(), 0);
   }
 
   private static void name() {
@@ -882,6 +981,35 @@ public final class LineMapPromises {
     due("put()", y.put(), 1);
     due("named(1, 0)", y.named(1, 0), 0);
     due("named(1, 1)", y.named(1, 1), -1);
+    // the same with all numbers one higher: 0 has no lines
+    LineMap z = mapOf(9, 9, 3, 2, 2, 2, 3, 3, 1, 3, 1, 2, 1, 1, 3, 1, 4, 2, 4, 3);
+    addLine(z, 3, 2, 6);
+    addLine(z, 4, 2, 7);
+    addLine(z, 5, 2);
+    addLine(z, 8, 1, 9);
+    draw(z, 4, 4, 2, 1, 1, 1, 2, 2, 0, 2, 0, 1, 0, 0, 2, 0, 3, 1, 3, 2);
+    z.name(1, 3);
+    z.name(2, 3);
+    due("put()", z.put(), 1);
+    due("named(2, 1) by the name of 1", z.named(2, 1), 201);
+    z.name(1, 0);
+    z.name(2, 4);
+    due("put()", z.put(), 0);
+    due("named(2, 1) by station 1", z.named(2, 1), 1);
+    // a star whose numbers go the other way round: direction 0 leads to 8 by edge 7
+    LineMap u = new LineMap();
+    u.station(500, 500);
+    for (int d = 7; d >= 0; d--) u.station(500 + 100 * DX[d], 500 + 100 * DY[d]);
+    for (int s = 1; s < 8; s += 2) addLine(u, s, 0, s + 1);
+    u.grid(3, 3);
+    u.place(0, 1, 1);
+    for (int d = 7; d >= 0; d--) u.place(8 - d, 1 + DX[d], 1 + DY[d]);
+    u.name(0, 2);
+    due("put()", u.put(), 0);
+    due("named(0, 1) by edge 7", u.named(0, 1), 107);
+    u.name(0, 12);
+    due("put()", u.put(), 0);
+    due("named(0, 1) by station 8", u.named(0, 1), 8);
   }
 
   private static void image() {
