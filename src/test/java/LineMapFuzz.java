@@ -16,7 +16,7 @@ public final class LineMapFuzz {
   private static long mostWork = 250_000;
 
   public static void main(String[] args) {
-    int runs = args.length > 0 ? Integer.parseInt(args[0]) : 400;
+    int runs = args.length > 0 ? Integer.parseInt(args[0]) : 1600;
     long seed = args.length > 1 ? Long.parseLong(args[1]) : 1;
     if (args.length > 2) mostWork = Long.parseLong(args[2]);
     for (int run = 0; run < runs && wrong < 20; run++) {
@@ -54,14 +54,18 @@ public final class LineMapFuzz {
       }
     }
 
+    /** An object is made for 512 calls; a step and the looks behind it are fewer than 80. */
     void go() {
       build();
-      for (int n = 0; n < 120 && !broken; n++) {
+      for (int n = 0; n < 512 && calls.size() < 430 && !broken; n++) {
+        int before = calls.size();
         step();
         due("status()", map.status(), oracle.status);
-        if (lot.nextInt(3) == 0) lookAtAll();
+        // a step may have made no call; the first one since is that of status() then
+        if (calls.get(before).startsWith("b")) lookAtPoints();
+        if (calls.get(before).startsWith("put")) lookAtNames();
+        look(lot.nextInt(7));
       }
-      lookAtAll();
     }
 
     int station() { return lot.nextInt(12) == 0 ? lot.nextInt(14) - 2 : lot.nextInt(Math.max(1, oracle.xs.size())); }
@@ -195,19 +199,52 @@ public final class LineMapFuzz {
       }
     }
 
-    void lookAtAll() {
-      for (int l = -1; l <= oracle.lines.size(); l++)
-        for (int i = -2; i <= 4; i++) due("of(" + l + ", " + i + ")", map.of(l, i), oracle.of(l, i));
-      for (int e = -2; e <= oracle.edges().size(); e++)
-        for (int k = -1; k <= 3; k++) due("edge(" + e + ", " + k + ")", map.edge(e, k), oracle.edge(e, k));
-      for (int s = -1; s <= oracle.xs.size(); s++) {
-        for (int i = -2; i <= 6; i++) due("round(" + s + ", " + i + ")", map.round(s, i), oracle.round(s, i));
-        for (int k = -1; k <= 2; k++) due("named(" + s + ", " + k + ")", map.named(s, k), oracle.named(s, k));
-        due("point(" + s + ")", map.point(s), oracle.point(s));
+    void look(int kind) {
+      switch (kind) {
+        case 0 -> lookAtRows();
+        case 1 -> lookAtEdges();
+        case 2 -> lookAtRings();
+        case 3 -> lookAtPoints();
+        case 4 -> lookAtNames();
+        case 5 -> lookAtCounts();
+        default -> lookAtFaults();
       }
+    }
+
+    void lookAtRows() {
+      int l = lot.nextInt(oracle.lines.size() + 2) - 1;
+      for (int i = -2; i <= oracle.of(l, -1); i++) due("of(" + l + ", " + i + ")", map.of(l, i), oracle.of(l, i));
+    }
+
+    void lookAtEdges() {
+      due("edge(-1, 0)", map.edge(-1, 0), oracle.edge(-1, 0));
+      for (int n = 0; n < 3; n++) {
+        int e = lot.nextInt(oracle.edges().size() + 3) - 2;
+        for (int k = -1; k <= 3; k++) due("edge(" + e + ", " + k + ")", map.edge(e, k), oracle.edge(e, k));
+      }
+    }
+
+    void lookAtRings() {
+      int s = lot.nextInt(oracle.xs.size() + 2) - 1;
+      for (int i = -2; i <= oracle.round(s, -1); i++) due("round(" + s + ", " + i + ")", map.round(s, i), oracle.round(s, i));
+    }
+
+    void lookAtPoints() {
+      for (int s = -1; s <= oracle.xs.size(); s++) due("point(" + s + ")", map.point(s), oracle.point(s));
+    }
+
+    void lookAtNames() {
+      for (int s = 0; s <= oracle.xs.size(); s++)
+        for (int k = 0; k <= 2; k++) due("named(" + s + ", " + k + ")", map.named(s, k), oracle.named(s, k));
+    }
+
+    void lookAtCounts() {
+      for (int k = -1; k <= 7; k++) due("count(" + k + ")", map.count(k), oracle.count(k));
+    }
+
+    void lookAtFaults() {
       for (int k = -1; k <= 3; k++) due("why(" + k + ")", map.why(k), oracle.why(k));
       for (int k = -1; k <= 4; k++) due("cost(" + k + ")", map.cost(k), oracle.cost(k));
-      for (int k = -1; k <= 7; k++) due("count(" + k + ")", map.count(k), oracle.count(k));
       due("status()", map.status(), oracle.status);
     }
   }
